@@ -116,7 +116,7 @@ public final class LockedTree {
         for (int i = 0; i < now.resourceCount; i++) {
             int path = now.resources[i].path;
             if (Paths.isWithin(path, p) && !leadsToListed(path)) {
-                next.remove(path);
+                next.removeTree(path);
             }
         }
         return carryOut(multiCount == 0 ? NO_CONTENT : MULTI_STATUS);
@@ -716,20 +716,11 @@ public final class LockedTree {
             }
         }
 
-        void remove(int path) {
-            removeAll(path, false);
-        }
-
         void removeTree(int top) {
-            removeAll(top, true);
-        }
-
-        private void removeAll(int top, boolean deep) {
             int kept = 0;
             for (int i = 0; i < resourceCount; i++) {
                 Resource resource = resources[i];
-                boolean goes = resource.path == top || deep && Paths.isBelow(resource.path, top);
-                if (!goes) {
+                if (!Paths.isWithin(resource.path, top)) {
                     // What goes changes places with what stays, so that no row is lost.
                     resources[i] = resources[kept];
                     resources[kept] = resource;

@@ -1,18 +1,27 @@
 import java.lang.reflect.Method;
+import java.util.HashMap;
+import java.util.Map;
 
 /** Makes calls by name, on a LockedTree or on anything else with methods of the same names. */
 final class Calls {
+    private static final Map<String, Method> FOUND = new HashMap<>();
+
     private Calls() {
     }
 
     /** The answer as a number; a boolean counts 1 or 0, as an answer and as an argument. */
     static long make(Object target, String name, int... arguments) {
+        String key = target.getClass().getName() + "." + name;
+        return answer(target, FOUND.computeIfAbsent(key, k -> find(target, name)), arguments);
+    }
+
+    private static Method find(Object target, String name) {
         for (Method method : target.getClass().getMethods()) {
-            if (method.getName().equals(name) && method.getParameterCount() == arguments.length) {
-                return answer(target, method, arguments);
+            if (method.getName().equals(name)) {
+                return method;
             }
         }
-        throw new IllegalArgumentException("no method " + name + " with " + arguments.length);
+        throw new IllegalArgumentException("no method " + name);
     }
 
     private static long answer(Object target, Method method, int[] arguments) {

@@ -210,6 +210,16 @@ public final class CopyTest {
             copy 9 201 true true -> 507
             copy 2 201 true true -> 201
             """);
+        Script.run("507 for the names of what has just been made", """
+            mkcol 2 -> 201
+            mkcol 1 -> 201
+            mkcol 9 -> 201
+            mkcol 73 -> 201
+            mkcol 585 -> 201
+            copy 1 17 true true -> 507
+            delete 585 -> 204
+            copy 1 17 true true -> 201
+            """);
         Script.run("507 for the number", Texts.TWELVE + """
             copy 2 14 true true -> 507
             copy 2 3 true true -> 204

@@ -23,6 +23,13 @@ public final class DeleteTest {
             delete 1 -> 204
             kind 17 -> 1
             """);
+        Script.run("just made and just gone", """
+            put 1 1 -> 201
+            delete 1 -> 204
+            delete 1 -> 404
+            put 1 1 -> 201
+            delete 1 -> 204
+            """);
         Script.run("400, 403, 404", """
             delete -1 -> 400
             delete 8 -> 400

@@ -99,6 +99,17 @@ public final class HeaderTermsTest {
             head /10(!e0)
             patch 9 0 1 -> 200
             """);
+        Script.run("lists without groups, after a header with groups", """
+            put 1 1 -> 201
+            head /0(e0)
+            put 1 2 -> 204
+            head (e2)
+            put 1 3 -> 204
+            head /1(e3)
+            tick 0 -> 200
+            head (e3)/1(e3)
+            tick 0 -> 400
+            """);
         Script.run("a negated condition about a path without a resource", """
             head (!e0)
             put 1 5 -> 201

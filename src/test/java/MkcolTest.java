@@ -16,11 +16,15 @@ public final class MkcolTest {
             """);
         Script.run("nothing of what stood there before comes back", """
             put 1 5 -> 201
+            patch 1 0 7 -> 200
             patch 1 1 8 -> 200
+            patch 1 2 9 -> 200
             delete 1 -> 204
             mkcol 1 -> 201
             body 1 -> 0
+            property 1 0 -> 0
             property 1 1 -> 0
+            property 1 2 -> 0
             stamp 1 -> 2
             """);
         Script.run("400", """

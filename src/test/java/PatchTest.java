@@ -27,6 +27,9 @@ public final class PatchTest {
             property 0 0 -> 0
             stamp 0 -> 0
             writes -> 9
+            tick 1 -> 200
+            property 0 1 -> 7
+            property 1 2 -> 8
             """);
         Script.run("400", """
             put 1 5 -> 201
