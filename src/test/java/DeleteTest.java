@@ -61,6 +61,7 @@ public final class DeleteTest {
             """);
         staying();
         locksThatGo();
+        lookedAtBefore();
         Script.end();
     }
 
@@ -158,6 +159,46 @@ public final class DeleteTest {
             writes -> 38           # three resources and two locks
             put 9 1 -> 201
             covering 9 -1 -> 0
+            """);
+    }
+
+    /** "All conditions are looked at before anything changes." */
+    private static void lookedAtBefore() {
+        Script.run("a lock that goes still opens what is below its root", """
+            mkcol 1 -> 201
+            mkcol 9 -> 201
+            put 73 1 -> 201
+            lock 9 false true 9 -> 200
+            lock 73 false false 9 -> 200
+            head /9(t1)
+            delete 1 -> 204
+            listing -1 -> 0
+            lockOf 1 -> -1
+            lockOf 2 -> -1
+            """);
+        Script.run("a path is opened by a lock that covers its parent alone no more than any", """
+            mkcol 1 -> 201
+            mkcol 9 -> 201
+            put 73 1 -> 201
+            put 10 1 -> 201
+            lock 9 false true 9 -> 200
+            lock 9 false false 9 -> 200
+            head /9(t2)
+            delete 1 -> 207
+            multi -1 -> 1
+            multi 0 -> 73
+            kind 9 -> 2
+            kind 10 -> 0
+            lockOf 1 -> 147494
+            lockOf 2 -> 147492
+            """);
+        Script.run("the stamp of what goes", """
+            put 1 1 -> 201
+            head (e1)
+            delete 1 -> 204
+            head (e1)
+            delete 1 -> 412
+            delete 1 -> 404
             """);
     }
 }

@@ -33,6 +33,7 @@ public final class HeadTest {
             put 1 2 -> 204
             put 1 3 -> 204
             """);
+        emptyAfterEachAnswer();
         Script.run("what is no request leaves the header", """
             head (e
             fail 5 -> 1
@@ -51,6 +52,23 @@ public final class HeadTest {
         Script.end();
     }
 
+    /** "empty after it, whatever its answer": there is room for 24 again, and the old one is gone. */
+    private static void emptyAfterEachAnswer() {
+        String setup = "mkcol 1 -> 201; put 9 1 -> 201; put 10 1 -> 201; put 11 1 -> 201; lock 9 true false 9 -> 200\n";
+        for (String request : new String[] {"head (e1); patch 1 0 1 -> 200", "head (!e1); put 2 1 -> 201",
+                "head (e4); put 11 5 -> 204", "head (e1); delete 1 -> 207", "head (e1; delete 1 -> 400",
+                "head (!e1); delete 0 -> 403", "head (!e1); delete 2 -> 404", "head (e1); put 1 1 -> 405",
+                "head (!e1); put 17 1 -> 409", "head (e2); patch 1 0 1 -> 412", "head (e2); patch 9 0 1 -> 423",
+                "fail 1 -> 1; head (e3); put 10 2 -> 0", "fail 2 -> 1; head (e3); put 10 2 -> 0"}) {
+            LockedTree tree = Script.after(request, setup + request);
+            for (int i = 1; i <= 25; i++) {
+                Script.due(request + ", then character " + i, tree.head('(') ? 1 : 0, i <= 24 ? 1 : 0);
+            }
+            Script.run(request, setup + request + "; tick 0 -> 200");
+        }
+        Script.run("507", Texts.TWELVE + "head (!e1); put 14 1 -> 507; tick 0 -> 200");
+    }
+
     private static void refusedCharacterChangesNothing() {
         LockedTree tree = new LockedTree();
         for (char c : "(e0)".toCharArray()) {
@@ -61,7 +79,16 @@ public final class HeadTest {
         Script.due("tick with a whole header", tree.tick(0), 200);
     }
 
+    /** Every number of characters up to the limit and beyond it. */
     private static void twentyFour() {
+        for (int length = 0; length <= 30; length++) {
+            LockedTree tree = new LockedTree();
+            for (int i = 1; i <= length; i++) {
+                Script.due("head of number " + i, tree.head("(e0)".charAt((i - 1) % 4)) ? 1 : 0, i <= 24 ? 1 : 0);
+            }
+            int kept = Math.min(length, 24);
+            Script.due("tick with " + length + " characters", tree.tick(0), kept % 4 == 0 ? 200 : 400);
+        }
         LockedTree tree = new LockedTree();
         String whole = "(!e1!e1!e1e0!e1!e1e0e00)";
         Script.due("length of the header", whole.length(), 24);

@@ -153,6 +153,8 @@ public final class HeaderTermsTest {
             """;
         Script.run("nothing submitted", locked + "put 9 2 -> 423");
         Script.run("in a list that holds", locked + "head (t1)\nput 9 2 -> 204");
+        Script.run("with zeros before it", locked + "head (t0001)\nput 9 2 -> 204");
+        Script.run("another number with the same end", locked + "head (!t11)\nput 9 2 -> 423");
         Script.run("negated, about another path", locked + "head /0(!t1)\nput 9 2 -> 204");
         Script.run("in a list that does not hold", locked + "head (t1e7)(e2)\nput 9 2 -> 204");
         Script.run("in another list", locked + "head (e2)(t1)\nput 9 2 -> 204");

@@ -1,4 +1,6 @@
+import com.sun.management.ThreadMXBean;
 import java.io.IOException;
+import java.lang.management.ManagementFactory;
 import java.lang.reflect.Constructor;
 import java.lang.reflect.Field;
 import java.lang.reflect.Method;
@@ -7,7 +9,6 @@ import java.nio.file.Files;
 import java.nio.file.Path;
 import java.util.Set;
 import java.util.TreeSet;
-import java.util.regex.Matcher;
 import java.util.regex.Pattern;
 
 /** The face of the class, and those rules of LANGUAGE.md that can be seen from outside. */
@@ -20,6 +21,8 @@ public final class LanguageTest {
         "int property(int,int)", "int covering(int,int)", "long lockOf(int)", "int multi(int)",
         "int writes()", "int listing(int)");
 
+    private static final char[] HOLDING = "(!e1)".toCharArray();
+
     public static void main(String[] args) throws IOException {
         face();
         members(LockedTree.class);
@@ -29,6 +32,7 @@ public final class LanguageTest {
             members(inside);
         }
         source(Files.readString(Path.of("src/main/java/LockedTree.java")));
+        room();
         Script.end();
     }
 
@@ -70,39 +74,51 @@ public final class LanguageTest {
         }
         for (Method method : type.getDeclaredMethods()) {
             Script.due(method + " has few parameters", method.getParameterCount() <= 7 ? 1 : 0, 1);
-            boolean ofFace = type == LockedTree.class && Modifier.isPublic(method.getModifiers());
             for (String call : FACE) {
                 boolean same = call.contains(" " + method.getName() + "(");
-                Script.due(method + " bears the name of a public one", same && !ofFace ? 1 : 0, 0);
+                boolean hidden = Modifier.isPrivate(method.getModifiers());
+                Script.due(method + " bears the name of a public one", same && hidden ? 1 : 0, 0);
             }
         }
     }
 
     private static void source(String text) {
         String code = text.replaceAll("(?s)/\\*.*?\\*/", "").replaceAll("//[^\n]*", "");
-        String[] forbidden = {"\\bimport\\b", "\\bpackage\\b", "\\bthrow\\b", "\\bthrows\\b", "\\btry\\b",
-            "\\bcatch\\b", "\\bsynchronized\\b", "\\bassert\\b", "->", "::", "\\bstatic\\s*\\{",
-            "\\bprotected\\b", "\\bhashCode\\b", "\\btoString\\b", "\\bequals\\b", "\\bString\\b"};
+        String[] forbidden = {"\\bpackage\\b", "\\bthrows?\\b", "\\btry\\b", "\\bcatch\\b",
+            "\\bsynchronized\\b", "\\bassert\\b", "::", "\\bstatic\\s*\\{", "\\bprotected\\b",
+            "\\bhashCode\\b", "(?m)^(?!\\s*(case|default)\\b).*->",
+            "\\bimport (?!java\\.util\\.(ArrayList|List|Arrays|Iterator);)"};
         for (String pattern : forbidden) {
             Script.due("found " + pattern, Pattern.compile(pattern).matcher(code).find() ? 1 : 0, 0);
         }
-        Matcher made = Pattern.compile("\\n( *)[^\\n]*\\bnew\\b[^\\n]*").matcher(code);
-        while (made.find()) {
-            Script.due("an object is made outside a constructor: " + made.group().strip(),
-                madeAtBirth(code.substring(0, made.start()), made.group()) ? 1 : 0, 1);
-        }
     }
 
-    /** Either a field's initialiser or a line of a constructor, which has no type before its name. */
-    private static boolean madeAtBirth(String before, String line) {
-        if (line.contains("final ")) {
-            return true;
+    /** "All calls of one run live in ONE room": ten objects that each make 500 dear calls. */
+    private static void room() {
+        ThreadMXBean thread = (ThreadMXBean) ManagementFactory.getThreadMXBean();
+        manyCalls();
+        long before = thread.getCurrentThreadAllocatedBytes();
+        for (int i = 0; i < 10; i++) {
+            manyCalls();
         }
-        Matcher header = Pattern.compile("(?m)^(?: {4}| {8})(?!for|if|while)[a-zA-Z].*\\) \\{$").matcher(before);
-        String last = "";
-        while (header.find()) {
-            last = header.group().strip();
+        long made = thread.getCurrentThreadAllocatedBytes() - before;
+        // An object has 16 bytes at least, so this is well within 600,000 of them.
+        Script.due("bytes made: " + made + ", too many", made > 8_000_000 ? 1 : 0, 0);
+    }
+
+    private static void manyCalls() {
+        LockedTree tree = new LockedTree();
+        tree.mkcol(1);
+        for (int p = 9; p <= 13; p++) {
+            tree.put(p, 1);
         }
-        return last.matches("(public )?[A-Z]\\w*\\(\\) \\{");
+        for (int i = 0; i < 60; i++) {
+            Script.due("a dear copy", tree.copy(1, 2, true, true), 201);
+            for (char c : HOLDING) {
+                tree.head(c);
+            }
+            Script.due("a dear deletion", tree.delete(2), 204);
+            tree.listing(-1);
+        }
     }
 }

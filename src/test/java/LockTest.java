@@ -4,6 +4,7 @@ public final class LockTest {
         locks();
         refusals();
         conflicts();
+        everyPairOfLocks();
         limits();
         Script.end();
     }
@@ -138,6 +139,27 @@ public final class LockTest {
             head (t1)
             lock 11 true false 9 -> 423
             """);
+    }
+
+    /** An old lock above, at, below or beside the path 1, and a new one there, of every kind. */
+    private static void everyPairOfLocks() {
+        for (int kinds = 0; kinds < 16; kinds++) {
+            boolean oldDeep = (kinds & 1) != 0;
+            boolean oldExclusive = (kinds & 2) != 0;
+            boolean newDeep = (kinds & 4) != 0;
+            boolean newExclusive = (kinds & 8) != 0;
+            for (int root : new int[] {0, 1, 9, 73, 585, 2, 17}) {
+                LockedTree tree = Script.after("a branch", Texts.BRANCH.replace("put 2 7", "mkcol 2") + "put 17 1 -> 201");
+                boolean below = root == 9 || root == 73 || root == 585;
+                boolean meets = root == 1 || root == 0 && oldDeep || below && newDeep;
+                int due = meets && (oldExclusive || newExclusive) ? 423 : 200;
+                String title = "kinds " + kinds + ", an old lock on " + root;
+                Script.due(title, tree.lock(root, oldExclusive, oldDeep, 9), 200);
+                Script.due(title + ", a new one", tree.lock(1, newExclusive, newDeep, 8), due);
+                Script.due(title + ", its end", tree.lockOf(2), due == 423 ? -1
+                    : 8 * 16384 + 4 + (newDeep ? 2 : 0) + (newExclusive ? 1 : 0));
+            }
+        }
     }
 
     private static void limits() {

@@ -192,7 +192,9 @@ public final class Model {
     private int commit(int answer) {
         planned.holds.values().removeIf(hold -> planned.at(hold.root) == null || hold.end <= planned.clock);
         int k = planned.clock == state.clock ? 0 : 1;
-        for (int p = 0; p <= 4095; p++) {
+        Set<Integer> paths = new HashSet<>(state.things.keySet());
+        paths.addAll(planned.things.keySet());
+        for (int p : paths) {
             Thing old = state.things.get(p);
             Thing now = planned.things.get(p);
             k += old == null ? (now == null ? 0 : 1) : (old.equals(now) ? 0 : 1);

@@ -57,19 +57,7 @@ public final class MultiTest {
             kind 12 -> 1
             multi -1 -> 0
             """);
-        Script.run("eleven can stay", """
-            mkcol 1 -> 201
-            mkcol 9 -> 201
-            put 73 1 -> 201
-            put 74 1 -> 201
-            put 75 1 -> 201
-            put 76 1 -> 201
-            put 77 1 -> 201
-            put 78 1 -> 201
-            put 79 1 -> 201
-            put 10 1 -> 201
-            put 11 1 -> 201
-            put 12 1 -> 201
+        Script.run("eleven can stay", Texts.ELEVEN_BELOW + """
             lock 9 true true 9 -> 200
             lock 10 true true 9 -> 200
             lock 11 true true 9 -> 200

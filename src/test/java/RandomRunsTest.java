@@ -4,10 +4,15 @@ import java.util.Random;
 import java.util.TreeMap;
 import java.util.TreeSet;
 
-/** Runs of requests drawn from fixed seeds, answered alike by LockedTree and by the Model. */
+/**
+ * Runs of requests drawn from fixed seeds, answered alike by LockedTree and by the Model. No run
+ * makes more than the 512 calls that an object is made for.
+ */
 public final class RandomRunsTest {
-    private static final int RUNS = 1000;
-    private static final int REQUESTS_A_RUN = 120;
+    private static final int RUNS = 4000;
+    private static final int CALLS_A_RUN = 512;
+    /** More than a look at everything needs. */
+    private static final int LAST_LOOK = 170;
     private static final int[] ODD = {-1, -2, 8, 64, 520, 4096, 1000000, Integer.MIN_VALUE, Integer.MAX_VALUE};
     private static final List<String> REQUESTS = List.of("put", "mkcol", "delete", "copy", "move",
         "patch", "lock", "refresh", "unlock", "tick");
@@ -19,13 +24,14 @@ public final class RandomRunsTest {
     private final Model model = new Model();
     private final List<String> told = new ArrayList<>();
     private final boolean grows;
+    private int calls = 0;
     private int stamps = 1;
     private int tokens = 1;
     private boolean wrong = false;
 
     private RandomRunsTest(long seed) {
         random = new Random(seed);
-        // Half of the runs have few locks and deletions, so that the tree gets full and deep.
+        // Half of the runs begin with much and delete little, so that the tree gets full and deep.
         grows = seed % 2 == 0;
     }
 
@@ -67,7 +73,10 @@ public final class RandomRunsTest {
     }
 
     private void go() {
-        for (int i = 0; i < REQUESTS_A_RUN && !wrong; i++) {
+        for (int i = 0; grows && i < 16; i++) {
+            sprout();
+        }
+        while (calls < CALLS_A_RUN - LAST_LOOK && !wrong) {
             if (random.nextInt(3) == 0) {
                 addHeader(random.nextBoolean() ? anyHeader() : holdingHeader());
             }
@@ -77,7 +86,11 @@ public final class RandomRunsTest {
             boolean growing = grows && random.nextInt(5) > 0;
             request(growing ? GROWING[random.nextInt(GROWING.length)]
                 : REQUESTS.get(random.nextInt(REQUESTS.size())));
-            look();
+            glance();
+        }
+        look();
+        if (calls > CALLS_A_RUN) {
+            Script.due("calls of one run are at most", calls, CALLS_A_RUN);
         }
     }
 
@@ -88,6 +101,7 @@ public final class RandomRunsTest {
         for (int argument : arguments) {
             line.append(' ').append(argument);
         }
+        calls++;
         told.add(line + " -> " + want + (got == want ? "" : " but answered " + got));
         wrong |= got != want;
         return want;
@@ -127,40 +141,76 @@ public final class RandomRunsTest {
         SEEN.computeIfAbsent(name, key -> new TreeSet<>()).add(status);
     }
 
-    private void look() {
+    private void sprout() {
+        int there = Math.max(0, (int) Calls.make(model, "listing", random.nextInt(12)));
+        int member = there * 8 + 1 + random.nextInt(7);
+        if (random.nextInt(4) == 0) {
+            call("put", member, random.nextInt(1000));
+        } else {
+            call("mkcol", member);
+        }
+    }
+
+    /** What shows at once, and one more thing by chance. */
+    private void glance() {
         call("writes");
+        int k = random.nextInt(14) - 1;
+        switch (random.nextInt(5)) {
+            case 0:
+                call("listing", k);
+                break;
+            case 1:
+                call("multi", k);
+                break;
+            case 2:
+                call("covering", path(), random.nextInt(8) - 1);
+                break;
+            case 3:
+                call("lockOf", token());
+                break;
+            default:
+                call("stamp", path());
+        }
+        learn();
+    }
+
+    /** The tests' own knowledge of what could be asked for, from the Model. */
+    private void learn() {
+        for (int k = 0; k < 12; k++) {
+            int p = (int) Calls.make(model, "listing", k);
+            stamps = Math.max(stamps, (int) Calls.make(model, "stamp", p) + 1);
+        }
+        for (int k = 1; k <= 6; k++) {
+            tokens = Math.max(tokens, Calls.make(model, "lockOf", tokens + k) >= 0 ? tokens + k : tokens);
+        }
+    }
+
+    private void look() {
         call("multi", -1);
-        call("multi", random.nextInt(6));
+        call("multi", 0);
         long count = call("listing", -1);
         for (int k = 0; k <= count; k++) {
-            int p = (int) call("listing", k);
-            lookAt(p);
-            stamps = Math.max(stamps, (int) Calls.make(model, "stamp", p) + 1);
+            lookAt((int) call("listing", k));
         }
         lookAt(0);
         lookAt(path());
-        for (int token = 0; token <= tokens + 1; token++) {
-            if (call("lockOf", token) >= 0) {
-                tokens = Math.max(tokens, token);
-            }
+        for (int token = Math.max(0, tokens - 12); token <= tokens + 1; token++) {
+            call("lockOf", token);
         }
         int p = path();
         for (int k = -2; k < 7; k++) {
             call("covering", p, k);
         }
-        told.removeIf(line -> !line.contains(" but ") && !isTold(line));
-    }
-
-    private static boolean isTold(String line) {
-        String name = line.substring(0, line.indexOf(' '));
-        return name.equals("head") || name.equals("fail") || REQUESTS.contains(name);
     }
 
     private void lookAt(int p) {
         call("kind", p);
         call("body", p);
         call("stamp", p);
-        call("property", p, random.nextInt(5) - 1);
+        for (int key = 0; key <= 2; key++) {
+            call("property", p, key);
+        }
+        call("covering", p, -1);
     }
 
     private void addHeader(String text) {

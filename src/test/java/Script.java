@@ -1,7 +1,7 @@
 /**
- * Runs of calls written as text, each on a new LockedTree. A line is "put 9 5 -> 201": a call, its
- * arguments and the answer that is due. The line "head (t1)" adds each character of a header, all
- * of which must be taken; "#" begins a remark.
+ * Runs of calls written as text. A line is "put 9 5 -> 201": a call, its arguments and the answer
+ * that is due. The line "head (t1)" adds each character of a header, all of which must be taken;
+ * "#" begins a remark; a ";" parts two calls on one line.
  */
 final class Script {
     private static int calls = 0;
@@ -11,12 +11,29 @@ final class Script {
     }
 
     static void run(String title, String text) {
+        after(title, text);
+    }
+
+    /** A new object on which the calls have been made. */
+    static LockedTree after(String title, String text) {
         LockedTree tree = new LockedTree();
-        for (String line : text.split("\n")) {
-            String bare = line.replaceFirst("#.*", "").strip();
-            if (!bare.isEmpty()) {
-                runLine(title, tree, bare);
+        on(title, tree, text);
+        return tree;
+    }
+
+    static void on(String title, LockedTree tree, String text) {
+        for (String line : text.replaceAll("#[^\n]*", "").split("[\n;]")) {
+            if (!line.isBlank()) {
+                runLine(title, tree, line.strip());
             }
+        }
+    }
+
+    static void same(String what, String got, String want) {
+        calls++;
+        if (!got.equals(want)) {
+            wrong++;
+            System.out.println(what + " is\n  " + got + "\ndue is\n  " + want);
         }
     }
 

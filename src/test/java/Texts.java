@@ -26,6 +26,22 @@ final class Texts {
         put 2 7 -> 201
         """;
 
+    /** Twelve resources: the collection 1 with eleven below it, of which 9 is a collection, too. */
+    static final String ELEVEN_BELOW = """
+        mkcol 1 -> 201
+        mkcol 9 -> 201
+        put 73 1 -> 201
+        put 74 1 -> 201
+        put 75 1 -> 201
+        put 76 1 -> 201
+        put 77 1 -> 201
+        put 78 1 -> 201
+        put 79 1 -> 201
+        put 10 1 -> 201
+        put 11 1 -> 201
+        put 12 1 -> 201
+        """;
+
     private Texts() {
     }
 }
