@@ -43,6 +43,25 @@ public final class CopyTest {
             listing -1 -> 7
             kind 25 -> 0
             """);
+        Script.run("all properties, over those of another", """
+            put 1 5 -> 201
+            patch 1 0 7 -> 200
+            patch 1 1 8 -> 200
+            patch 1 2 9 -> 200
+            mkcol 2 -> 201
+            patch 2 0 1 -> 200
+            patch 2 1 2 -> 200
+            patch 2 2 3 -> 200
+            copy 1 2 true true -> 204
+            property 2 0 -> 7
+            property 2 1 -> 8
+            property 2 2 -> 9
+            kind 2 -> 1
+            body 2 -> 5
+            property 1 0 -> 7
+            property 1 1 -> 8
+            property 1 2 -> 9
+            """);
         Script.run("from below to above and into a neighbour", Texts.BRANCH + """
             copy 585 3 true false -> 201
             body 3 -> 5
@@ -183,6 +202,30 @@ public final class CopyTest {
             head /585(t1)
             copy 2 9 true true -> 204
             lockOf 1 -> -1
+            """);
+        Script.run("423 below q for a copy alone, too, since all there would go", Texts.BRANCH + """
+            lock 585 true false 9 -> 200
+            lock 1 false false 9 -> 200
+            head /1(t2)
+            copy 2 1 false true -> 423
+            head /585(t1)/1(t2)
+            copy 2 1 false true -> 204
+            listing -1 -> 2
+            lockOf 1 -> -1
+            lockOf 2 -> 147460
+            """);
+        Script.run("423 at q alone, its parent being opened", Texts.BRANCH + """
+            lock 0 false true 9 -> 200
+            lock 1 false false 9 -> 200
+            head /1(t2)
+            copy 2 11 true true -> 423
+            head /1(t1)
+            copy 2 11 true true -> 201
+            """);
+        Script.run("a barred source, its barred parent and what is below it bar nothing", Texts.BRANCH + """
+            lock 1 true true 9 -> 200
+            copy 9 3 true true -> 201
+            copy 585 4 true true -> 201
             """);
         Script.run("423 at q without a resource, by a deep lock", Texts.BRANCH + """
             lock 1 true true 9 -> 200

@@ -60,6 +60,7 @@ public final class DeleteTest {
             delete 1 -> 204
             """);
         staying();
+        stayingByTheParent();
         locksThatGo();
         lookedAtBefore();
         Script.end();
@@ -145,6 +146,26 @@ public final class DeleteTest {
             """);
     }
 
+    private static void stayingByTheParent() {
+        Script.run("a barred parent keeps what its own token would let go", Texts.BRANCH + """
+            lock 9 true false 9 -> 200
+            lock 73 true false 9 -> 200
+            head /73(t2)
+            delete 1 -> 207
+            multi -1 -> 2
+            multi 0 -> 9
+            multi 1 -> 73
+            kind 585 -> 0
+            kind 10 -> 0
+            """);
+        Script.run("of p's own members none stays by their parent", Texts.BRANCH + """
+            lock 1 true false 9 -> 200
+            head (t1)
+            delete 1 -> 204
+            listing -1 -> 1
+            """);
+    }
+
     private static void locksThatGo() {
         Script.run("locks whose root is gone are gone, and are counted", Texts.BRANCH + """
             lock 585 false false 9 -> 200
@@ -176,7 +197,7 @@ public final class DeleteTest {
             lockOf 1 -> -1
             lockOf 2 -> -1
             """);
-        Script.run("a path is opened by a lock that covers its parent alone no more than any", """
+        Script.run("the token of a lock on the parent alone opens nothing below it", """
             mkcol 1 -> 201
             mkcol 9 -> 201
             put 73 1 -> 201

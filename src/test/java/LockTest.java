@@ -2,6 +2,7 @@
 public final class LockTest {
     public static void main(String[] args) {
         locks();
+        barredPaths();
         refusals();
         conflicts();
         everyPairOfLocks();
@@ -48,6 +49,31 @@ public final class LockTest {
             tick 2 -> 200
             lock 0 false true 2 -> 200
             lockOf 3 -> 65538
+            """);
+    }
+
+    private static void barredPaths() {
+        Script.run("a barred path without a resource may be shared, if its parent is opened", """
+            mkcol 1 -> 201
+            lock 0 false true 9 -> 200
+            lock 1 false false 9 -> 200
+            lock 9 false false 9 -> 423
+            head /1(t2)
+            lock 9 true false 9 -> 423
+            head /1(t2)
+            lock 9 false false 9 -> 201
+            covering 9 -1 -> 2
+            """);
+        Script.run("nothing of what stood there before comes back", """
+            put 1 5 -> 201
+            patch 1 0 7 -> 200
+            patch 1 2 9 -> 200
+            delete 1 -> 204
+            lock 1 true true 9 -> 201
+            body 1 -> 0
+            property 1 0 -> 0
+            property 1 2 -> 0
+            stamp 1 -> 2
             """);
     }
 

@@ -27,6 +27,24 @@ public final class MoveTest {
             put 4 1 -> 201
             stamp 4 -> 7
             """);
+        Script.run("all properties, over those of another", """
+            put 1 5 -> 201
+            patch 1 0 7 -> 200
+            patch 1 1 8 -> 200
+            patch 1 2 9 -> 200
+            mkcol 2 -> 201
+            patch 2 0 1 -> 200
+            patch 2 1 2 -> 200
+            patch 2 2 3 -> 200
+            move 1 2 true -> 204
+            property 2 0 -> 7
+            property 2 1 -> 8
+            property 2 2 -> 9
+            kind 2 -> 1
+            body 2 -> 5
+            stamp 2 -> 1
+            property 1 0 -> -1
+            """);
         Script.run("over a branch, over a document", Texts.BRANCH + """
             mkcol 3 -> 201
             put 31 1 -> 201
@@ -154,6 +172,14 @@ public final class MoveTest {
             head /73(t1)
             move 2 585 true -> 204
             body 585 -> 7
+            """);
+        Script.run("423 at q alone, its parent being opened", Texts.BRANCH + """
+            lock 9 false true 9 -> 200
+            lock 9 false false 9 -> 200
+            head /9(t2)
+            move 2 74 true -> 423
+            head /9(t1)
+            move 2 74 true -> 201
             """);
         Script.run("423 at q without a resource", Texts.BRANCH + """
             lock 9 true true 9 -> 200

@@ -20,6 +20,16 @@ public final class PutTest {
             body 4095 -> 5
             stamp 4095 -> 7
             """);
+        Script.run("its properties stay, all of them", """
+            put 1 5 -> 201
+            patch 1 0 7 -> 200
+            patch 1 1 8 -> 200
+            patch 1 2 9 -> 200
+            put 1 6 -> 204
+            property 1 0 -> 7
+            property 1 1 -> 8
+            property 1 2 -> 9
+            """);
         Script.run("400", """
             put -1 1 -> 400
             put 8 1 -> 400
@@ -78,6 +88,27 @@ public final class PutTest {
             head (t1)
             put 1 1 -> 201
             put 1 2 -> 423
+            """);
+        Script.run("423 at the path alone, its parent being opened", """
+            mkcol 1 -> 201
+            lock 0 false true 9 -> 200
+            lock 1 false false 9 -> 200
+            head /1(t2)
+            put 9 1 -> 423
+            head /1(t1)
+            put 9 1 -> 201
+            """);
+        Script.run("nothing of what stood there before comes back", """
+            put 1 5 -> 201
+            patch 1 0 7 -> 200
+            patch 1 1 8 -> 200
+            patch 1 2 9 -> 200
+            delete 1 -> 204
+            put 1 6 -> 201
+            property 1 0 -> 0
+            property 1 1 -> 0
+            property 1 2 -> 0
+            stamp 1 -> 2
             """);
         Script.run("507 for the 13th, after 423", Texts.TWELVE + """
             put 14 1 -> 507
