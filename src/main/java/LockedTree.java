@@ -548,11 +548,13 @@ public final class LockedTree {
 
         /** Where a path that is from or below it comes to stand when from comes to stand at to. */
         static int answering(int path, int from, int to) {
+            int names = 0;
             int span = 1;
             for (int rest = path; rest > 0 && rest != from; rest /= 8) {
+                names += rest % 8 * span;
                 span *= 8;
             }
-            return to * span + path % span;
+            return to * span + names;
         }
     }
 

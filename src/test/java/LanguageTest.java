@@ -9,6 +9,7 @@ import java.nio.file.Files;
 import java.nio.file.Path;
 import java.util.Set;
 import java.util.TreeSet;
+import java.util.regex.Matcher;
 import java.util.regex.Pattern;
 
 /** The face of the class, and those rules of LANGUAGE.md that can be seen from outside. */
@@ -31,7 +32,13 @@ public final class LanguageTest {
             Script.due(inside + " is public", Modifier.isPublic(inside.getModifiers()) ? 1 : 0, 0);
             members(inside);
         }
-        source(Files.readString(Path.of("src/main/java/LockedTree.java")));
+        int classes = 1 + LockedTree.class.getDeclaredClasses().length;
+        Script.due("classes: " + classes + ", too many", classes > 12 ? 1 : 0, 0);
+        String text = Files.readString(Path.of("src/main/java/LockedTree.java"));
+        String code = text.replaceAll("(?s)/\\*.*?\\*/", "").replaceAll("//[^\n]*", "");
+        words(code);
+        divisors(code);
+        lengths(code);
         room();
         Script.end();
     }
@@ -68,10 +75,13 @@ public final class LanguageTest {
     }
 
     private static void members(Class<?> type) {
+        int held = 0;
         for (Field field : type.getDeclaredFields()) {
+            held += Modifier.isStatic(field.getModifiers()) ? 0 : 1;
             boolean fine = !Modifier.isStatic(field.getModifiers()) || Modifier.isFinal(field.getModifiers());
             Script.due(field + " is final if static", fine ? 1 : 0, 1);
         }
+        Script.due("fields of " + type + ": " + held + ", too many", held > 20 ? 1 : 0, 0);
         for (Method method : type.getDeclaredMethods()) {
             Script.due(method + " has few parameters", method.getParameterCount() <= 7 ? 1 : 0, 1);
             for (String call : FACE) {
@@ -82,8 +92,7 @@ public final class LanguageTest {
         }
     }
 
-    private static void source(String text) {
-        String code = text.replaceAll("(?s)/\\*.*?\\*/", "").replaceAll("//[^\n]*", "");
+    private static void words(String code) {
         String[] forbidden = {"\\bpackage\\b", "\\bthrows?\\b", "\\btry\\b", "\\bcatch\\b",
             "\\bsynchronized\\b", "\\bassert\\b", "::", "\\bstatic\\s*\\{", "\\bprotected\\b",
             "\\bhashCode\\b", "(?m)^(?!\\s*(case|default)\\b).*->",
@@ -93,32 +102,80 @@ public final class LanguageTest {
         }
     }
 
-    /** "All calls of one run live in ONE room": ten objects that each make 500 dear calls. */
-    private static void room() {
-        ThreadMXBean thread = (ThreadMXBean) ManagementFactory.getThreadMXBean();
-        manyCalls();
-        long before = thread.getCurrentThreadAllocatedBytes();
-        for (int i = 0; i < 10; i++) {
-            manyCalls();
+    /** "a divisor before it divides": each is a number written out, so none has to be looked at. */
+    private static void divisors(String code) {
+        Matcher divisor = Pattern.compile("[/%]=?+\\s*+(\\S+)").matcher(code.replaceAll("'.'", "' '"));
+        int found = 0;
+        while (divisor.find()) {
+            found++;
+            boolean written = divisor.group(1).matches("[1-9].*");
+            Script.due("the divisor " + divisor.group(1) + " is a number", written ? 1 : 0, 1);
         }
-        long made = thread.getCurrentThreadAllocatedBytes() - before;
-        // An object has 16 bytes at least, so this is well within 600,000 of them.
-        Script.due("bytes made: " + made + ", too many", made > 8_000_000 ? 1 : 0, 0);
+        Script.due("some divisors were found", found > 0 ? 1 : 0, 1);
     }
 
-    private static void manyCalls() {
-        LockedTree tree = new LockedTree();
-        tree.mkcol(1);
-        for (int p = 9; p <= 13; p++) {
-            tree.put(p, 1);
+    /** "Methods stay short (some sixty lines)"; one ends at the first brace that stands as far in. */
+    private static void lengths(String code) {
+        String start = "(?ms)^( {4}| {8})(?!if|for|while|switch)\\w[^\n]*\\) \\{\n(.*?)^\\1\\}\n";
+        Matcher method = Pattern.compile(start).matcher(code);
+        int found = 0;
+        while (method.find()) {
+            found++;
+            long lines = method.group(2).lines().count();
+            Script.due("a method of " + lines + " lines is too long", lines > 60 ? 1 : 0, 0);
         }
-        for (int i = 0; i < 60; i++) {
+        Script.due("methods were found", found > 80 ? 1 : 0, 1);
+    }
+
+    /** "All calls of one run live in ONE room": an object is small, and its calls make nothing. */
+    private static void room() {
+        ThreadMXBean thread = (ThreadMXBean) ManagementFactory.getThreadMXBean();
+        manyCalls(new LockedTree());
+        thread.getCurrentThreadAllocatedBytes();
+        long atFirst = thread.getCurrentThreadAllocatedBytes();
+        LockedTree tree = new LockedTree();
+        long whenMade = thread.getCurrentThreadAllocatedBytes();
+        manyCalls(tree);
+        long atLast = thread.getCurrentThreadAllocatedBytes();
+        // With 4 bytes for a field and 16 for an object: some thousand fields at the most.
+        Script.due("bytes of an object: " + (whenMade - atFirst) + ", too many", whenMade - atFirst > 8000 ? 1 : 0, 0);
+        // Each method is called twelve times at least, and the least object has 16 bytes.
+        Script.due("bytes that calls made: " + (atLast - whenMade) + ", too many", atLast - whenMade > 100 ? 1 : 0, 0);
+    }
+
+    /** Every method but the constructor, twelve times at least, in fewer than 512 calls. */
+    private static void manyCalls(LockedTree tree) {
+        for (int i = 0; i < 12; i++) {
+            tree.mkcol(1);
+            tree.put(9 + i % 5, 1);
+        }
+        for (int i = 0; i < 12; i++) {
             Script.due("a dear copy", tree.copy(1, 2, true, true), 201);
-            for (char c : HOLDING) {
-                tree.head(c);
-            }
-            Script.due("a dear deletion", tree.delete(2), 204);
-            tree.listing(-1);
+            Script.due("a dear move", tree.move(2, 3, true), 201);
+            Script.due("a lock", tree.lock(27, true, true, 9), 200);
+            Script.due("a deletion in part", tree.delete(3), 207);
+            Script.due("what stays", tree.multi(0), 27);
+            head(tree);
+            Script.due("a refresh that is refused", tree.refresh(27, 8), 412);
+            Script.due("a patch", tree.patch(1, 1, i), 200);
+            Script.due("the patch", tree.property(1, 1), i);
+            Script.due("a tick", tree.tick(5), 200);
+            Script.due("the token", tree.covering(27, 0), i + 1);
+            Script.due("a lock taken away", tree.unlock(27, i + 1), 204);
+            Script.due("the lock", tree.lockOf(i + 1), -1);
+            head(tree);
+            tree.fail(100);
+            Script.due("a dear deletion", tree.delete(3), 204);
+            Script.due("resources", tree.listing(-1), 6);
+            Script.due("kind and body", tree.kind(9) + tree.body(9), 2);
+            Script.due("a stamp", tree.stamp(9), 12);
+            Script.due("writes", tree.writes() > 0 ? 1 : 0, 1);
+        }
+    }
+
+    private static void head(LockedTree tree) {
+        for (char c : HOLDING) {
+            tree.head(c);
         }
     }
 }
