@@ -12,18 +12,21 @@ public final class RandomRunsTest {
     private static final int RUNS = 4000;
     private static final int CALLS_A_RUN = 512;
     /** More than a look at everything needs. */
-    private static final int LAST_LOOK = 170;
+    private static final int LAST_LOOK = 180;
     private static final int[] ODD = {-1, -2, 8, 64, 520, 4096, 1000000, Integer.MIN_VALUE, Integer.MAX_VALUE};
     private static final List<String> REQUESTS = List.of("put", "mkcol", "delete", "copy", "move",
         "patch", "lock", "refresh", "unlock", "tick");
     private static final String[] GROWING = {"put", "mkcol", "mkcol", "mkcol", "copy", "move"};
+    private static final String[] LOCKING = {"lock", "lock", "lock", "lock", "refresh", "delete"};
     private static final TreeMap<String, TreeSet<Long>> SEEN = new TreeMap<>();
+    private static boolean noRoomForLocks = false;
 
     private final Random random;
     private final LockedTree tree = new LockedTree();
     private final Model model = new Model();
     private final List<String> told = new ArrayList<>();
     private final boolean grows;
+    private final boolean locks;
     private int calls = 0;
     private int stamps = 1;
     private int tokens = 1;
@@ -33,6 +36,8 @@ public final class RandomRunsTest {
         random = new Random(seed);
         // Half of the runs begin with much and delete little, so that the tree gets full and deep.
         grows = seed % 2 == 0;
+        // A third of them, of either half, locks much, so that there are as many locks as can be.
+        locks = seed % 3 == 0;
     }
 
     public static void main(String[] args) {
@@ -61,6 +66,7 @@ public final class RandomRunsTest {
         expect("refresh", 0, 200, 400, 412);
         expect("unlock", 0, 204, 400, 409, 412);
         expect("tick", 0, 200, 400, 412);
+        Script.due("a seventh lock was refused", noRoomForLocks ? 1 : 0, 1);
     }
 
     private static void expect(String request, long... statuses) {
@@ -80,18 +86,25 @@ public final class RandomRunsTest {
             if (random.nextInt(3) == 0) {
                 addHeader(random.nextBoolean() ? anyHeader() : holdingHeader());
             }
-            if (random.nextInt(6) == 0) {
-                call("fail", random.nextInt(10) == 0 ? odd() : random.nextInt(18) - 1);
+            if (random.nextInt(4) == 0) {
+                call("fail", random.nextInt(10) == 0 ? odd() : random.nextInt(flag() == 1 ? 6 : 26) - 1);
             }
-            boolean growing = grows && random.nextInt(5) > 0;
-            request(growing ? GROWING[random.nextInt(GROWING.length)]
-                : REQUESTS.get(random.nextInt(REQUESTS.size())));
+            request(anyRequest());
             glance();
         }
         look();
         if (calls > CALLS_A_RUN) {
             Script.due("calls of one run are at most", calls, CALLS_A_RUN);
         }
+    }
+
+    private String anyRequest() {
+        if (locks && random.nextInt(3) > 0) {
+            return LOCKING[random.nextInt(LOCKING.length)];
+        }
+        boolean growing = grows && random.nextInt(5) > 0;
+        return growing ? GROWING[random.nextInt(GROWING.length)]
+            : REQUESTS.get(random.nextInt(REQUESTS.size()));
     }
 
     private long call(String name, int... arguments) {
@@ -111,20 +124,21 @@ public final class RandomRunsTest {
         long status;
         switch (name) {
             case "put":
-                status = call(name, path(), random.nextInt(15) == 0 ? odd() : random.nextInt(1000000));
+                status = call(name, path(flag() == 1), random.nextInt(15) == 0 ? odd() : random.nextInt(1000000));
                 break;
             case "copy":
-                status = call(name, path(), path(), flag(), flag());
+                status = call(name, path(false), path(flag() == 1), flag(), flag());
                 break;
             case "move":
-                status = call(name, path(), path(), flag());
+                status = call(name, path(false), path(flag() == 1), flag());
                 break;
             case "patch":
-                status = call(name, path(), random.nextInt(15) == 0 ? odd() : random.nextInt(3),
+                status = call(name, path(false), random.nextInt(15) == 0 ? odd() : random.nextInt(3),
                     random.nextInt(15) == 0 ? odd() : random.nextInt(3));
                 break;
             case "lock":
-                status = call(name, path(), random.nextInt(3) == 0 ? 1 : 0, flag(), time());
+                status = call(name, path(), random.nextInt(locks ? 12 : 3) == 0 ? 1 : 0, flag(), time());
+                noRoomForLocks |= status == 507 && Calls.make(model, "listing", -1) < 12;
                 break;
             case "refresh":
                 status = call(name, path(), time());
@@ -135,14 +149,18 @@ public final class RandomRunsTest {
             case "tick":
                 status = call(name, random.nextInt(15) == 0 ? odd() : random.nextInt(12));
                 break;
+            case "delete":
+                status = call(name, path(false));
+                call("multi", -1);
+                break;
             default:
-                status = call(name, path());
+                status = call(name, path(random.nextInt(4) > 0));
         }
         SEEN.computeIfAbsent(name, key -> new TreeSet<>()).add(status);
     }
 
     private void sprout() {
-        int there = Math.max(0, (int) Calls.make(model, "listing", random.nextInt(12)));
+        int there = there();
         int member = there * 8 + 1 + random.nextInt(7);
         if (random.nextInt(4) == 0) {
             call("put", member, random.nextInt(1000));
@@ -262,15 +280,19 @@ public final class RandomRunsTest {
         return Math.max(0, tokens - random.nextInt(7) + 1);
     }
 
-    /** Few names, so that paths meet; often one that is there or its member, sometimes no path. */
+    /** Mostly one that is there or its member; or of few names, so that paths meet; or no path. */
     private int path() {
+        return path(random.nextInt(3) == 0);
+    }
+
+    private int path(boolean member) {
         int draw = random.nextInt(40);
         if (draw == 0) {
             return odd();
         }
-        if (draw < 24) {
-            int there = Math.max(0, (int) Calls.make(model, "listing", random.nextInt(12)));
-            return draw < 16 || there > 511 ? there : there * 8 + 1 + random.nextInt(7);
+        if (draw < 32) {
+            int there = there();
+            return !member || there > 511 ? there : there * 8 + 1 + random.nextInt(7);
         }
         int names = random.nextInt(5);
         int p = 0;
@@ -278,6 +300,12 @@ public final class RandomRunsTest {
             p = p * 8 + 1 + (random.nextInt(8) == 0 ? random.nextInt(7) : random.nextInt(3));
         }
         return p;
+    }
+
+    /** The path of a resource, seldom of the root. */
+    private int there() {
+        int count = (int) Calls.make(model, "listing", -1);
+        return Math.max(0, (int) Calls.make(model, "listing", random.nextInt(count + 1)));
     }
 
     private int odd() {
